@@ -295,8 +295,8 @@ public final class StickRoom {
             return finding(BEYOND);
         }
         reading.find(player);
-        int of = extra ? tapes.counts[player] : line.count;
-        return of - reading.matched;
+        int there = extra ? tapes.counts[player] : line.count;
+        return there - reading.matched;
     }
 
     // ---- sheets, the whole
@@ -684,7 +684,7 @@ public final class StickRoom {
             if (!isBelow(key, KEYS)) {
                 return;
             }
-            if (wayCounts[key] == 0) {
+            if (wayCounts[key] == 0 && size < KEYS) {
                 keys[size] = key;
                 size++;
             } else if (price > prices[key]) {
