@@ -135,6 +135,9 @@ final class BassEdges extends Edges {
         due("note 0 is not in it", x.fast(1, 5, UP), 0);
         due("note 5 is not in it", x.fast(0, 4, UP), 0);
         due("3 twice", x.fast(0, 5, UP_AND_DOWN), 1);
+        x.note(TAP, 6, 0);
+        due("0 1 2 3 4 3 from note 1 on", x.fast(1, 6, UP_AND_DOWN), 1);
+        due("0 1 2 3 4 from note 2 on", x.fast(2, 6, UP_AND_DOWN), 0);
         x.bass(0, false);
         due("1 for 0 and 1", x.fast(0, 1, UP), 1);
         due("down: 4 3 2 1 1", x.fast(0, 4, DOWN), 1);

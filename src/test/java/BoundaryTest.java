@@ -6,7 +6,8 @@ public final class BoundaryTest {
         Report report = new Report(new Document());
         Edges[] groups = {
             new LineEdges(report), new HandsEdges(report), new BassEdges(report), new TapeEdges(report),
-            new SheetEdges(report), new WholeEdges(report), new RefusedEdges(report)};
+            new SheetEdges(report), new WholeEdges(report), new RefusedEdges(report),
+            new UndoEdges(report)};
         for (Edges group : groups) {
             group.run();
         }

@@ -211,7 +211,11 @@ final class HandsEdges extends Edges {
         dueHands("three left accents or a repeat",
                 marked(line(ACCENT, 0, 0, TAP, 100, 0, ACCENT, 200, 0, TAP, 300, 0, ACCENT, 400, 0, TAP, 500, 0), 5, RIGHT),
                 1, 0, 1, 0, 1, 1);
-        StickRoom x = marked(steady(20, 100), 0, LEFT, 19, LEFT);
+        StickRoom x = marked(line(ACCENT, 0, 2, TAP, 30, 0, TAP, 130, 0, FLAM, 230, 2), 3, RIGHT);
+        x.rule(CROSSES, 4);
+        dueHands("a repeat in the midst ahead of one at the end", x, 1, 0, 0, 1);
+        due("these two", x.ways(), 2);
+        x = marked(steady(20, 100), 0, LEFT, 19, LEFT);
         due("the second of 20 repeats", x.hand(1), LEFT);
         due("the third goes on in turn", x.hand(2), RIGHT);
     }
@@ -315,6 +319,12 @@ final class HandsEdges extends Edges {
         due("without notes", new StickRoom().ways(), 1);
         due("one note", taps(0).ways(), 2);
         due("one accent", line(ACCENT, 0, 0).ways(), 1);
+        StickRoom again = taps(0);
+        due("asked", again.ways(), 2);
+        again.rule(GAP, 21);
+        due("asked again behind an act", again.ways(), 2);
+        again.drop();
+        due("without notes again", again.ways(), 1);
         due("20 in turn", steady(20, 100).ways(), 2);
         due("one repeat in 19 places", marked(steady(20, 100), 0, LEFT, 19, LEFT).ways(), 19);
         // Six times one repeat in three places.

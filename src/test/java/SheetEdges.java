@@ -54,6 +54,7 @@ final class SheetEdges extends Edges {
         due("missing", x.sheet(1, 0, 0), 0);
         due("is missing", x.put(1, 0, 0), MISSING);
         due("still", x.sheet(1, 0, 0), 0);
+        due("of no numbers, whatever n is", x.sheet(1, 0, 24), 0);
         due("is missing", x.tape(0, 1), MISSING);
         x = filled(8, 5, 6, 7);
         due("made anew", x.sheet(0, 8, 3), 3);
